@@ -839,6 +839,9 @@ public final class GlebeVowels {
         }
 
         private boolean readWord(Land draft, int word) {
+            if (word < 0 || word >= MOST_WORDS) {
+                return false;
+            }
             int n = 0;
             int vowels = 0;
             while (n < MOST_LETTERS && sign() >= 'a' && sign() <= 'z') {

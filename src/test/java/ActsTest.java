@@ -13,6 +13,7 @@ public final class ActsTest {
         plough();
         year();
         yearOfUnlikeChanges();
+        lastYear();
         undo();
         undoTwentyFour();
         undoOfYears();
@@ -106,6 +107,21 @@ public final class ActsTest {
         due("10: all become u", one.year(), 4);
         due("10: then none", one.year(), 0);
         due("10: u alone", one.count(8), Due.set(4));
+    }
+
+    /** Promise 10: FULL. No object gets there by its first 512 calls; this class counts on. */
+    private static void lastYear() {
+        GlebeVowels x = Due.on(SMALL);
+        for (int year = 1; year < 9999; year++) {
+            x.year();
+        }
+        due("10: the last one", x.year(), 5);
+        due("10: year 9999", x.count(3), 9999);
+        due("10: no more", x.year(), GlebeVowels.FULL);
+        due("10: year 9999 still", x.count(3), 9999);
+        due("10: undone", x.undo(), 23);
+        due("10: once more", x.year(), 5);
+        due("10: no more again", x.year(), GlebeVowels.FULL);
     }
 
     /** Promise 11. */

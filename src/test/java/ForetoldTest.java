@@ -135,6 +135,9 @@ public final class ForetoldTest {
         due("17: buys(0, 2, MIN)", x.buys(0, 2, Integer.MIN_VALUE), BAD);
         due("17: nothing changes", x.cell(1, 1), 1);
         due("17: no act", x.count(6), 0);
+        GlebeVowels four = Due.on("lpp;aeio;1111;aeio,aei;eioua");
+        due("17: no four", four.buys(0, 0, -1), NONE);
+        due("17: but three", four.buys(0, 1, -1), 1 + 2 + 3);
         GlebeVowels y = Due.on("lp;-;0;sky;eioua");
         due("17: no vowels", y.buys(0, 0, -1), 0);
         due("17: no vowels, 0", y.buys(0, 0, 0), NONE);
@@ -495,7 +498,9 @@ public final class ForetoldTest {
         due("25: what -1", x.drawn(1, 1, -1), BAD);
         due("25: no land", new GlebeVowels().drawn(0, 1, 0), NOT);
         due("25: no land, bad ahead", new GlebeVowels().drawn(0, 1, 2), BAD);
-        x.drawn(40, 999999, 0);
+        due("25: n 40, seed 999999", x.drawn(40, 999999, 1) >= 0 ? 1 : 0, 1);
+        due("25: nothing is drawn for good, who", x.drawn(0, 1, 0), 1);
+        due("25: nothing is drawn for good, of nobody", x.drawn(0, 1, 1), 3);
         due("25: nothing changes, of nobody", x.count(5), 3);
         due("25: nothing changes, the year", x.count(3), 0);
         due("25: nothing changes, a sound", x.cell(0, 0), 0);
@@ -525,6 +530,9 @@ public final class ForetoldTest {
         GlebeVowels y = Due.on("lppp;" + cells + ";.../2..;y;aeiou");
         due("25: 2, 0 and 2 say one", y.drawn(2, 1, 0), 0);
         due("25: 3, 2 says o and u", y.drawn(3, 1, 0), 2);
+        due("25: one cell", Due.on("lp;a;.;y;aeiou").drawn(1, 1, 1), 0);
+        due("25: one row of two", Due.on("lp;ae;..;y;aeiou").drawn(1, 1, 1), 1);
+        due("25: one column of two", Due.on("lpp;a/e;./.;y;aeiou").drawn(1, 1, 1), 1);
         GlebeVowels z = Due.on("lppp;" + cells + ";.../2..;y;aeiuu");
         due("25: 3, by years 2 says but u", z.drawn(3, 1, 0), 0);
     }

@@ -107,6 +107,8 @@ public final class SoundsTest {
         due("3: a fault leaves the acts", x.count(6), 2);
         due("3: a fault empties the tape", x.count(7), 0);
         due("3: a fault leaves whose", x.cell(0, 1), 1);
+        due("3: bytes of the tape before are gone", Due.read(x, "lpp;ae;01;y;aeio"), -116);
+        due("3: all of them", Due.read(x, "l"), -101);
         due("3: in place", Due.read(x, "lpp;ae;01;y;aeiou"), 2);
         due("3: year 0", x.count(3), 0);
         due("3: nothing to undo", x.count(6), 0);
@@ -114,6 +116,8 @@ public final class SoundsTest {
         due("3: fewer rows", x.cell(8, 0), BAD);
         due("3: fewer words", x.word(1, 0), BAD);
         due("3: whose anew", x.cell(0, 1), 0);
+        due("3: of nobody anew", x.count(5), 0);
+        due("3: vowels anew", x.count(8), Due.set(0, 1));
         due("3: sheets stay", x.drop(2), 3);
         due("3: images stay", x.restore(1), 1);
         due("3: the image's holders", x.count(0), 5);
@@ -299,6 +303,8 @@ public final class SoundsTest {
         says("bp", "uuuuuu/uuuuuu", "111111/111111", 0, "u");
         says("bp", "oooooo/oooooo", "111111/111111", 0, "ou");
         says("bp", "iiiiii/iiiiii/a-----", "111111/111111/0.....", 0, "aeio");
+        says("rp", "iiiiii/iiiiii/aaaaaa/aaaaaa", "111111/111111/111111/111111", 0, "ai");
+        says("np", "iiiiii/iiiiii/aaaaaa/aaaaaa", "0...../....../0...../......", 0, "");
         says("pp", "------/------", "000000/111111", 0, "");
     }
 
