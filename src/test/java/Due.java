@@ -49,6 +49,26 @@ final class Due {
         return on("l" + holders + ";" + cells + ";" + whose + ";a;eioua");
     }
 
+    /** What is asked of a number; -1 where it is refused as one that is not as told. */
+    interface Asked {
+        long of(int number);
+    }
+
+    /** Each number from least to greatest is as told; what lies outside, near or far, is BAD. */
+    static void range(String call, int least, int greatest, Asked asked) {
+        for (int number = least; number <= greatest; number++) {
+            due(call + " of " + number + " is BAD", asked.of(number) == GlebeVowels.BAD ? 1 : 0, 0);
+        }
+        int[] outside = {least - 1, least - 2, greatest + 1, greatest + 2, Integer.MIN_VALUE, Integer.MAX_VALUE,
+            least - 256, greatest + 256, least + (1 << 16), least + (1 << 30)};
+        for (int number : outside) {
+            if (number >= least && number <= greatest) {
+                continue;
+            }
+            due(call + " of " + number, asked.of(number), GlebeVowels.BAD);
+        }
+    }
+
     /** A set of the numbers told. */
     static int set(int... numbers) {
         int bits = 0;
