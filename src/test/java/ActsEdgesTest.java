@@ -1,3 +1,5 @@
+import java.util.Arrays;
+
 /** Promises 8 to 13, sentence by sentence: acts, the 24 of them that can be undone, and images. */
 public final class ActsEdgesTest {
     private static final int BAD = GlebeVowels.BAD;
@@ -171,17 +173,10 @@ public final class ActsEdgesTest {
         }
     }
 
-    /** Acts of each kind, undone one by one; the cells are as they were ahead of each. */
-    private static void undoEachKind() {
+    /** The first acts of a row of all kinds: a sale, a ploughing, a year, .. */
+    private static GlebeVowels behindActs(int acts) {
         GlebeVowels x = six();
-        int acts = 40;
-        int[][] sounds = new int[acts + 1][];
-        int[][] whose = new int[acts + 1][];
-        int[] years = new int[acts + 1];
-        for (int k = 0; k <= acts; k++) {
-            sounds[k] = all(x, 0);
-            whose[k] = all(x, 1);
-            years[k] = x.count(3);
+        for (int k = 0; k < acts; k++) {
             int cell = k * 5 % 6 + k % 2 * 8;
             if (k % 3 == 0) {
                 x.sell(cell, x.cell(cell, 1) == k % 6 ? NONE : k % 6);
@@ -192,14 +187,22 @@ public final class ActsEdgesTest {
             }
             due("acts", x.count(6), Math.min(24, k + 1));
         }
-        for (int k = acts; k > acts - 24; k--) {
-            due("undone to " + k, x.undo(), k - acts + 23);
-            due("sounds ahead of " + k, java.util.Arrays.mismatch(all(x, 0), sounds[k]), -1);
-            due("whose ahead of " + k, java.util.Arrays.mismatch(all(x, 1), whose[k]), -1);
-            due("year ahead of " + k, x.count(3), years[k]);
+        return x;
+    }
+
+    /** Acts of each kind, undone one by one: all cells and the year are as they were ahead of each. */
+    private static void undoEachKind() {
+        int acts = 41;
+        for (int undone = 1; undone <= 25; undone++) {
+            GlebeVowels x = behindActs(acts);
+            for (int k = 1; k <= undone; k++) {
+                due(k + " undone", x.undo(), k > 24 ? NONE : 24 - k);
+            }
+            GlebeVowels y = behindActs(acts - Math.min(24, undone));
+            due("sounds, " + undone + " undone", Arrays.mismatch(all(x, 0), all(y, 0)), -1);
+            due("whose, " + undone + " undone", Arrays.mismatch(all(x, 1), all(y, 1)), -1);
+            due("the year, " + undone + " undone", x.count(3), y.count(3));
         }
-        due("no more", x.undo(), NONE);
-        due("sounds stay", java.util.Arrays.mismatch(all(x, 0), sounds[acts - 23]), -1);
     }
 
     private static int[] all(GlebeVowels x, int what) {

@@ -157,41 +157,46 @@ public final class ForetoldEdgesTest {
         due("common in two", common.first(0, 1), 2);
     }
 
+    /** Two who say all, and one who says none. */
+    private static GlebeVowels three() {
+        return Due.on("lppp;aeiou/aeiou;00000/11111;aei,y,ou;eioua");
+    }
+
+    /** What each number may be; each is asked on an object of its own. */
     private static void ranges() {
-        GlebeVowels x = Due.on("lppp;aeiou/aeiou;00000/11111;aei,y,ou;eioua");
-        Due.range("behind(0, n)", 0, 60, n -> x.behind(0, n));
-        Due.range("behind(one, 60)", 0, 2, one -> x.behind(one, 60));
-        Due.range("first(one, 0)", 0, 2, one -> x.first(one, 0));
-        Due.range("first(0, word)", 0, 2, word -> x.first(0, word));
-        Due.range("round(what)", 0, 1, what -> x.round(what));
-        Due.range("buys(one, 1, 0)", 0, 2, one -> x.buys(one, 1, 0));
-        Due.range("buys(0, word, -1)", 0, 2, word -> x.buys(0, word, -1));
-        Due.range("scattered(one, 0)", 0, 2, one -> x.scattered(one, 0));
-        Due.range("scattered(0, what)", 0, 1, what -> x.scattered(0, what));
-        Due.range("talk(one, 1)", 0, 2, one -> x.talk(one, 1));
-        Due.range("talk(0, m)", 1, 5, m -> x.talk(0, m));
-        Due.range("marry(one, 1)", 0, 2, one -> one == NONE ? -1 : x.marry(one, 1));
-        Due.range("marry(NONE, m)", 1, 5, m -> x.marry(NONE, m));
-        Due.range("marry(0, m)", 1, 5, m -> x.marry(0, m));
-        Due.range("letters(one, 2, 1)", 0, 1, one -> x.letters(one, 2, 1));
-        Due.range("letters(0, other, 1)", 1, 2, other -> x.letters(0, other, 1));
-        Due.range("letters(0, 1, q)", 1, 1000, q -> q > 1000 && q < 1000001 ? -1 : x.letters(0, 1, q));
-        Due.range("letters(0, 1, q)", 999000, 1000000, q -> q > 0 && q < 999000 ? -1 : x.letters(0, 1, q));
-        Due.range("holdings(one, 1, 0, 0)", 0, 2, one -> x.holdings(one, 1, 0, 0));
-        Due.range("holdings(0, n, 0, 0)", 1, 3, n -> x.holdings(0, n, 0, 0));
-        Due.range("holdings(0, 1, heard, 0)", 0, 31, heard -> x.holdings(0, 1, heard, 0));
-        Due.range("holdings(0, 1, 0, what)", 0, 2, what -> x.holdings(0, 1, 0, what));
-        Due.range("take(one, 2, 1)", 0, 1, one -> x.take(one, 2, 1));
-        Due.range("take(0, other, 1)", 1, 2, other -> x.take(0, other, 1));
-        Due.range("take(0, 1, n)", 0, 2, n -> x.take(0, 1, n));
-        Due.range("chance(one, 0, 1, 0)", 0, 2, one -> x.chance(one, 0, 1, 0));
-        Due.range("chance(0, word, 1, 0)", 0, 2, word -> x.chance(0, word, 1, 0));
-        Due.range("chance(0, 0, n, 1)", 0, 2, n -> x.chance(0, 0, n, 1));
-        Due.range("chance(0, 0, 1, what)", 0, 1, what -> x.chance(0, 0, 1, what));
-        Due.range("drawn(n, 1, 0)", 0, 40, n -> x.drawn(n, 1, 0));
-        Due.range("drawn(1, seed, 0)", 1, 100, seed -> seed > 100 && seed < 1000000 ? -1 : x.drawn(1, seed, 0));
-        Due.range("drawn(1, seed, 1)", 999900, 999999, seed -> seed > 0 && seed < 999900 ? -1 : x.drawn(1, seed, 1));
-        Due.range("drawn(1, 1, what)", 0, 1, what -> x.drawn(1, 1, what));
+        Due.range("behind(0, n)", 0, 60, n -> three().behind(0, n));
+        Due.range("behind(one, 60)", 0, 2, one -> three().behind(one, 60));
+        Due.range("first(one, 0)", 0, 2, one -> three().first(one, 0));
+        Due.range("first(0, word)", 0, 2, word -> three().first(0, word));
+        Due.range("round(what)", 0, 1, what -> three().round(what));
+        Due.range("buys(one, 1, 0)", 0, 2, one -> three().buys(one, 1, 0));
+        Due.range("buys(0, word, -1)", 0, 2, word -> three().buys(0, word, -1));
+        Due.range("scattered(one, 0)", 0, 2, one -> three().scattered(one, 0));
+        Due.range("scattered(0, what)", 0, 1, what -> three().scattered(0, what));
+        Due.range("talk(one, 1)", 0, 2, one -> three().talk(one, 1));
+        Due.range("talk(0, m)", 1, 5, m -> three().talk(0, m));
+        Due.range("marry(one, 1)", 0, 2, one -> one == NONE ? -1 : three().marry(one, 1));
+        Due.range("marry(NONE, m)", 1, 5, m -> three().marry(NONE, m));
+        Due.range("marry(0, m)", 1, 5, m -> three().marry(0, m));
+        Due.range("letters(one, 2, 1)", 0, 1, one -> three().letters(one, 2, 1));
+        Due.range("letters(0, other, 1)", 1, 2, other -> three().letters(0, other, 1));
+        Due.range("letters(0, 1, q)", 1, 1000, q -> q > 1000 && q < 1000001 ? -1 : three().letters(0, 1, q));
+        Due.range("letters(0, 1, q)", 999000, 1000000, q -> q > 0 && q < 999000 ? -1 : three().letters(0, 1, q));
+        Due.range("holdings(one, 1, 0, 0)", 0, 2, one -> three().holdings(one, 1, 0, 0));
+        Due.range("holdings(0, n, 0, 0)", 1, 3, n -> three().holdings(0, n, 0, 0));
+        Due.range("holdings(0, 1, heard, 0)", 0, 31, heard -> three().holdings(0, 1, heard, 0));
+        Due.range("holdings(0, 1, 0, what)", 0, 2, what -> three().holdings(0, 1, 0, what));
+        Due.range("take(one, 2, 1)", 0, 1, one -> three().take(one, 2, 1));
+        Due.range("take(0, other, 1)", 1, 2, other -> three().take(0, other, 1));
+        Due.range("take(0, 1, n)", 0, 2, n -> three().take(0, 1, n));
+        Due.range("chance(one, 0, 1, 0)", 0, 2, one -> three().chance(one, 0, 1, 0));
+        Due.range("chance(0, word, 1, 0)", 0, 2, word -> three().chance(0, word, 1, 0));
+        Due.range("chance(0, 0, n, 1)", 0, 2, n -> three().chance(0, 0, n, 1));
+        Due.range("chance(0, 0, 1, what)", 0, 1, what -> three().chance(0, 0, 1, what));
+        Due.range("drawn(n, 1, 0)", 0, 40, n -> three().drawn(n, 1, 0));
+        Due.range("drawn(1, seed, 0)", 1, 100, seed -> seed > 100 && seed < 1000000 ? -1 : three().drawn(1, seed, 0));
+        Due.range("drawn(1, seed, 1)", 999900, 999999, seed -> seed > 0 && seed < 999900 ? -1 : three().drawn(1, seed, 1));
+        Due.range("drawn(1, 1, what)", 0, 1, what -> three().drawn(1, 1, what));
     }
 
     /** PRICES together, the CELLS in order, and NONE behind them. */
@@ -576,7 +581,8 @@ public final class ForetoldEdgesTest {
         for (int rows = 1; rows <= 6; rows++) {
             for (int columns = 1; columns <= 6; columns++) {
                 String cells = ("/" + "a".repeat(columns)).repeat(rows).substring(1);
-                GlebeVowels x = Due.on("lpp;" + cells + ";" + cells.replace('a', '.') + ";y;eioua");
+                String holders = "p".repeat(1 + columns % 3);
+                GlebeVowels x = Due.on("l" + holders + ";" + cells + ";" + cells.replace('a', '.') + ";y;eioua");
                 for (int seed : new int[] {1, 2, 127773, 999999}) {
                     Set<Long> sold = new HashSet<>();
                     long next = seed;
@@ -595,9 +601,10 @@ public final class ForetoldEdgesTest {
     /** "SOLD to the HOLDER that X by 8 (cut) leaves by how many there are": who SAYS most, of several the first. */
     private static void drawnWho() {
         for (int holders = 1; holders <= 6; holders++) {
-            GlebeVowels x = Due.on("l" + "p".repeat(holders) + ";aei/ou-/uoi;.../.../...;y;eiiau");
+            String land = "l" + "p".repeat(holders) + ";aei/ou-/uoi;.../.../...;y;eiiau";
             int[] sounds = {0, 1, 2, 3, 4, 5, 4, 3, 2};
             for (int seed = 1; seed <= 40; seed++) {
+                GlebeVowels x = Due.on(land);
                 int[] whose = {-1, -1, -1, -1, -1, -1, -1, -1, -1};
                 long next = seed * 24999L;
                 for (int n = 0; n <= 40; n++) {

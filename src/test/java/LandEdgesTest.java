@@ -1,3 +1,5 @@
+import java.util.Arrays;
+
 /**
  * Promises 1 to 3, sentence by sentence: what may stand at each place of a LAND, and where a FAULT
  * is. Each place of some texts is tried with each of the 256 bytes.
@@ -237,7 +239,7 @@ public final class LandEdgesTest {
     private static void words() {
         String[] words = {"a", "zz", "abc", "wxyz", "azazaz"};
         for (int n = 1; n <= 4; n++) {
-            String text = "lp;a;0;" + String.join(",", java.util.Arrays.copyOf(words, n)) + ";aeiou";
+            String text = "lp;a;0;" + String.join(",", Arrays.copyOf(words, n)) + ";aeiou";
             reads(text, 1, 1, 1, n);
             for (int word = 0; word < n; word++) {
                 due("letters of word " + word + " of " + text, Due.on(text).word(word, 0), word + 1);
@@ -361,7 +363,7 @@ public final class LandEdgesTest {
                     Due.read(x, second);
                     Due.read(x, land);
                     due("as on a new object: " + land + " behind " + first + " and " + second,
-                        java.util.Arrays.mismatch(told(x), told(Due.on(land))), -1);
+                        Arrays.mismatch(told(x), told(Due.on(land))), -1);
                 }
             }
         }

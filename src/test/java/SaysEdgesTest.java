@@ -43,8 +43,12 @@ public final class SaysEdgesTest {
         return text.toString();
     }
 
+    /** What 0 SAYS, whereof there are as many as `holder` tells. */
     private static int said(String holders, String cells, String whose) {
-        return Due.on("l" + holders + ";" + cells + ";" + whose + ";y;eioua").holder(0, 3);
+        GlebeVowels x = Due.on("l" + holders + ";" + cells + ";" + whose + ";y;eioua");
+        int said = x.holder(0, 3);
+        due("how many that is: l" + holders + ";" + cells + ";" + whose, x.holder(0, 4), Integer.bitCount(said));
+        return said;
     }
 
     /** The VOWEL behind one, as a set; there is none behind u. */

@@ -174,11 +174,11 @@ public final class SheetsEdgesTest {
 
     /** "becomes v, its lowest bits (read with their sign)": about each power of two, in each lane. */
     private static void lowestBits() {
-        GlebeVowels x = new GlebeVowels();
-        for (int lane = 0; lane < 4; lane++) {
-            x.sheet(lane, lane, 1);
-        }
         for (int bit = 0; bit < 64; bit++) {
+            GlebeVowels x = new GlebeVowels();
+            for (int lane = 0; lane < 4; lane++) {
+                x.sheet(lane, lane, 1);
+            }
             for (int more = -2; more <= 2; more++) {
                 for (int sign = -1; sign <= 1; sign += 2) {
                     long v = sign * ((1L << bit) + more);
@@ -189,6 +189,7 @@ public final class SheetsEdgesTest {
                 }
             }
         }
+        GlebeVowels x = new GlebeVowels();
         x.sheet(0, 0, 2);
         due("a byte of 257 is 1", x.item(0, 0, 0, 257), 1);
         due("a byte of -252 is 4", x.item(0, 0, 1, -252), 4);
@@ -343,8 +344,8 @@ public final class SheetsEdgesTest {
 
     /** "how many changes (of five VOWELS each) there are ..; by the first one .. what a VOWEL becomes; NONE": all of two pairs. */
     private static void eachChange() {
-        GlebeVowels x = new GlebeVowels();
         for (int way = 0; way < 625; way++) {
+            GlebeVowels x = new GlebeVowels();
             int[] pair = {way / 125, way / 25 % 5, way / 5 % 5, way % 5};
             fill(x, 0, 1, pair);
             String of = " of " + pair[0] + pair[1] + pair[2] + pair[3];
@@ -359,6 +360,8 @@ public final class SheetsEdgesTest {
                 due("what " + v + " becomes amid" + of, x.changes(0, 1, 1, 1, v), v == pair[1] ? pair[2] : 0);
             }
         }
+        GlebeVowels x = new GlebeVowels();
+        x.sheet(0, 1, 24);
         Due.range("changes(0, 1, 0, 1, vowel)", 0, 4, vowel -> x.changes(0, 1, 0, 1, vowel));
         Due.range("changes(0, 1, 0, n, 0)", 1, 12, n -> x.changes(0, 1, 0, n, 0));
         due("vowel NONE", x.changes(0, 1, 0, 1, NONE), 625);
@@ -398,10 +401,10 @@ public final class SheetsEdgesTest {
     /** "NOT: an item that is no VOWEL" among those that are asked, and only there. */
     private static void changesOfNoVowel() {
         for (int lane = 0; lane < 4; lane++) {
-            GlebeVowels x = new GlebeVowels();
             long[] none = {5, -1, 6, 31, 127, -128, Long.MIN_VALUE + 5, 1L << 32 | 5, MIN + 7L, 0x1_0000_FFFFL, 5 - 256};
             for (long v : none) {
                 for (int at = 0; at < 6; at++) {
+                    GlebeVowels x = new GlebeVowels();
                     fill(x, 2, lane, 1, 2, 3, 4, 0, 1);
                     long is = x.item(2, lane, at, v);
                     boolean vowel = is >= 0 && is <= 4;
