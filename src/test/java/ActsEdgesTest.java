@@ -352,6 +352,7 @@ public final class ActsEdgesTest {
         due("image 0 is the newer one", x.count(0), 2);
     }
 
+    /** "The LAND is as the IMAGE was (nothing can be undone then): the YEAR": as often as it is asked. */
     private static void restoreTwice() {
         GlebeVowels x = six();
         x.year();

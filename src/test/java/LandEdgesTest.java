@@ -289,6 +289,7 @@ public final class LandEdgesTest {
         fault("lp;ae/io;00/;y;aeiou", 12);
     }
 
+    /** "Words are 1 to 4 .. of 1 to 6 letters", "Change is five of a e i o u", "nothing behind it": where the FAULT is. */
     private static void wordsTooManyOrLong() {
         fault("lp;a;0;a,b,c,d,e;aeiou", 14);
         fault("lp;a;0;a,b,c,d,;aeiou", 14);

@@ -259,6 +259,7 @@ public final class SaysEdgesTest {
         Due.range("holder(0, what)", 0, 5, what -> x.holder(0, what));
     }
 
+    /** "0 its SOUND, 1 who holds it (NONE: nobody), 2 its PRICE. BAD." */
     private static void cellTold() {
         GlebeVowels x = Due.on("lpppppp;aeiou-;012345;y;eioua");
         for (int k = 0; k < 6; k++) {
@@ -272,6 +273,7 @@ public final class SaysEdgesTest {
         due("of nobody, none such", x.cell(6, 1), BAD);
     }
 
+    /** "0 how many letters, 1 its VOWELS (a set), 2 who CAN say it (a set). BAD." */
     private static void wordTold() {
         for (int words = 1; words <= 4; words++) {
             GlebeVowels x = Due.on("lpppppp;a;0;" + "a,ab,abc,abcdyf".substring(0, new int[] {1, 4, 8, 15}[words - 1]) + ";eioua");

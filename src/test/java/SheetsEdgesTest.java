@@ -301,6 +301,7 @@ public final class SheetsEdgesTest {
         Due.range("film(0, 1, 0, lane, 0)", 0, 3, lane -> x.film(0, 1, 0, lane, 0));
     }
 
+    /** "comes to a SHEET, taken as a row of a LANE, from i on": the items ahead and behind stay. */
     private static void filmOfEachLane() {
         for (int lane = 0; lane < 4; lane++) {
             GlebeVowels x = Due.on("lp;a-;0.;y;eaiou");
