@@ -38,6 +38,8 @@ public final class GlebeVowels {
     private static final int CELL_NUMBERS = 64;
     private static final int NOBODY = 6;
     private static final long NO_SET = -1L;
+    // More than any price of some cells, and than any number of sets.
+    private static final int FAR_ABOVE = 1000000;
 
     private static final int FARTHEST = 60;
     private static final int MOST_BOUGHT = 3;
@@ -548,7 +550,7 @@ public final class GlebeVowels {
     /** BUYS: few cells come ahead of many, so that only a lesser price beats what was found. */
     private long cheapestFor(int one, int need) {
         long best = NO_SET;
-        int least = Integer.MAX_VALUE;
+        int least = FAR_ABOVE;
         long forSale = now.everyCell() & ~now.held[one];
         for (int n = 0; n <= MOST_BOUGHT; n++) {
             for (int left = sets.begin(forSale, n); left > 0; left--) {
@@ -1275,7 +1277,7 @@ public final class GlebeVowels {
                 return NONE;
             }
             int best = NONE;
-            int nearest = Integer.MAX_VALUE;
+            int nearest = FAR_ABOVE;
             for (int cell = 0; cell < CELL_NUMBERS; cell++) {
                 int off = Math.abs(2 * often[cell] - fitting);
                 if (land.hasCell(cell) && off < nearest) {
